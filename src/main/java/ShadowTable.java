@@ -120,7 +120,17 @@ public final class ShadowTable {
             return -100 - fault;
         }
         history.prepare(state);
-        return recorded(carryOutOrders());
+        history.keepPrepared();
+        script.goToStart();
+        for (int done = 0; done < MOST_CHARACTERS; done++) {
+            if (!script.readOrder() || isError(carryOutOrder())) {
+                return done;
+            }
+            if (!script.skip(',')) {
+                return done + 1;
+            }
+        }
+        return MOST_CHARACTERS;
     }
 
     // ---- history and snapshot
@@ -268,19 +278,7 @@ public final class ShadowTable {
         return answer;
     }
 
-    private int carryOutOrders() {
-        script.goToStart();
-        for (int done = 0; done < MOST_CHARACTERS; done++) {
-            if (!script.readOrder() || isError(carryOutOrder())) {
-                return done;
-            }
-            if (!script.skip(',')) {
-                return done + 1;
-            }
-        }
-        return MOST_CHARACTERS;
-    }
-
+    /** Carries out the order that was read last. */
     private int carryOutOrder() {
         switch (script.order) {
             case 'p':
@@ -366,12 +364,12 @@ public final class ShadowTable {
         }
 
         int at(int key) {
-            return isKey(key) ? values[key] : NONE;
+            return key >= 0 && key < KEYS ? values[key] : NONE;
         }
 
         /** The value NONE removes the row. */
         void place(int key, int value) {
-            if (isKey(key)) {
+            if (key >= 0 && key < KEYS) {
                 values[key] = value;
             }
         }
@@ -475,15 +473,15 @@ public final class ShadowTable {
         }
 
         int keyAt(int entry) {
-            return isIn(entry, 0, size - 1) ? keys[slotOf(entry)] : NONE;
+            return entry >= 0 && entry < size ? keys[slotOf(entry)] : NONE;
         }
 
         int valueAt(int entry) {
-            return isIn(entry, 0, size - 1) ? values[slotOf(entry)] : NONE;
+            return entry >= 0 && entry < size ? values[slotOf(entry)] : NONE;
         }
 
         private int slotOf(int entry) {
-            return Math.floorMod(start + entry, MOST_ENTRIES);
+            return (start + entry) % MOST_ENTRIES;
         }
     }
 
@@ -504,7 +502,6 @@ public final class ShadowTable {
             kind = newKind;
             lot = newLot;
             cursor = 0;
-            age = 0;
         }
 
         void take(Copy other) {
@@ -515,12 +512,6 @@ public final class ShadowTable {
             lot = other.lot;
             cursor = other.cursor;
             age = other.age;
-        }
-
-        void applyFirst() {
-            int key = log.keyAt(0);
-            shadow.place(key, changedValue(kind, key, log.valueAt(0)));
-            log.removeFirst();
         }
 
         /** Answers whether the shadow table got a row. */
@@ -660,8 +651,11 @@ public final class ShadowTable {
         }
 
         private void applyEntries() {
-            for (int step = 0; step < settings[STEPS] && copy.log.size > 0; step++) {
-                copy.applyFirst();
+            Log log = copy.log;
+            for (int step = 0; step < settings[STEPS] && log.size > 0; step++) {
+                int key = log.keyAt(0);
+                copy.shadow.place(key, changedValue(copy.kind, key, log.valueAt(0)));
+                log.removeFirst();
                 totals[APPLIED]++;
             }
         }
@@ -764,7 +758,7 @@ public final class ShadowTable {
             return copy.phase == COPYING || copy.phase == CHASING;
         }
 
-        /** Makes ticks until the copy is ready, and answers how many; NONE if most of them do not do. */
+        /** Makes ticks until the copy is ready, and answers how many; NONE if so many are too few. */
         int ticksUntilReady(int most) {
             for (int made = 0; made <= most; made++) {
                 if (copy.phase == CHASING && copy.log.size == 0) {
@@ -812,7 +806,7 @@ public final class ShadowTable {
         }
 
         private int slotOf(int place) {
-            return Math.floorMod(start + place, SLOTS);
+            return (start + place) % SLOTS;
         }
     }
 
@@ -914,19 +908,16 @@ public final class ShadowTable {
             return isRead;
         }
 
-        /** Takes digits only as long as the number stays in its range: the next one is the fault then. */
+        /** Takes a second digit only if the number stays in its range: that digit is the fault otherwise. */
         private boolean readNumber(int least, int most) {
             number = digitHere();
             if (number < least || number > most) {
                 return false;
             }
             position++;
-            for (int digits = 1; digits < MOST_CHARACTERS; digits++) {
-                int digit = digitHere();
-                // Behind a zero no digit may follow: it would be a leading zero.
-                if (digit == NONE || number == 0 || 10 * number + digit > most) {
-                    return true;
-                }
+            int digit = digitHere();
+            // Behind a zero no digit may follow: it would be a leading zero. No number has three digits.
+            if (digit != NONE && number != 0 && 10 * number + digit <= most) {
                 number = 10 * number + digit;
                 position++;
             }
@@ -941,7 +932,7 @@ public final class ShadowTable {
 
         /** The character at the position; NONE behind the end. */
         private int here() {
-            return isIn(position, 0, length - 1) ? characters[position] : NONE;
+            return position >= 0 && position < length ? characters[position] : NONE;
         }
     }
 }

@@ -8,6 +8,8 @@ public final class HistoryTest {
         promise15Undo();
         promise15UndoOfEachAction();
         promise15UndoDropsTheOldest();
+        promise15UndoBehindRefusedCalls();
+        promise15UndoBringsAllBack();
         promise16Save();
         promise17Restore();
         promise27States();
@@ -111,6 +113,57 @@ public final class HistoryTest {
         CHECKS.due("the total is back", y.total(5), 0);
         CHECKS.due("undo of lock", y.undo(), 2);
         CHECKS.due("the phase is back", y.copy(0), 2);
+    }
+
+    private static void promise15UndoBehindRefusedCalls() {
+        ShadowTable x = new ShadowTable();
+        for (int value = 0; value < 6; value++) {
+            x.put(0, value);
+        }
+        x.put(0, 100);
+        x.lock();
+        x.run();
+        x.restore();
+        for (int left = 4; left >= 0; left--) {
+            CHECKS.due("undo behind refused calls", x.undo(), left);
+            CHECKS.due("the value", x.value(0, 0), left);
+        }
+    }
+
+    /** The undone action is followed by others that use the same places for other things. */
+    private static void promise15UndoBringsAllBack() {
+        ShadowTable x = Setups.chasing(4, 24);
+        String full = Picture.ofState(x);
+        x.tick(8);
+        x.put(9, 1);
+        x.erase(9);
+        x.put(8, 2);
+        for (int undone = 0; undone < 4; undone++) {
+            x.undo();
+        }
+        CHECKS.dueText("the log is back", Picture.ofState(x), full);
+
+        ShadowTable y = Setups.locked(4, 0);
+        y.swap();
+        y.erase(0);
+        y.begin(2, 3);
+        y.tick(2);
+        y.lock();
+        String locked = Picture.ofState(y);
+        y.save();
+        y.swap();
+        CHECKS.due("the old table has fewer rows", y.table(ShadowTable.OLD, 0), 3);
+        y.undo();
+        CHECKS.dueText("the old table of before is back", Picture.ofState(y), locked);
+        y.giveUp();
+        y.begin(4, 5);
+        y.undo();
+        y.undo();
+        CHECKS.dueText("the copy of before is back", Picture.ofState(y), locked);
+        y.giveUp();
+        y.begin(4, 5);
+        y.restore();
+        CHECKS.dueText("restore brings it back, too", Picture.ofState(y), locked);
     }
 
     private static void promise16Save() {

@@ -168,6 +168,12 @@ public final class RowsTest {
             CHECKS.due("no shadow " + what, x.table(1, what), ShadowTable.NONE);
             CHECKS.due("no old " + what, x.table(2, what), ShadowTable.NONE);
         }
+        x.put(0, 7);
+        int[] ofOne = {1, 7, 0, 0};
+        for (int what = 0; what < 4; what++) {
+            CHECKS.due("live with the row 0 alone " + what, x.table(0, what), ofOne[what]);
+        }
+        x.erase(0);
         x.put(5, 99);
         x.put(30, 0);
         x.put(31, 98);
