@@ -1,13 +1,23 @@
-import java.util.function.IntSupplier;
-
 /** Counts the answers that are not as due, and prints each of them. */
 final class Checks {
+    /** Far above what any test needs: a call that doesn't end must not hold up the others for ever. */
+    private static final long MOST_MILLISECONDS = 300_000;
+
     private final String name;
+    private String part = "";
     private int made;
     private int wrong;
 
     Checks(String name) {
         this.name = name;
+        Thread watch = new Thread(this::stopLateTest);
+        watch.setDaemon(true);
+        watch.start();
+    }
+
+    /** What the next answers belong to. */
+    void begin(String newPart) {
+        part = newPart;
     }
 
     void due(String what, long got, long want) {
@@ -21,16 +31,17 @@ final class Checks {
     void dueText(String what, String got, String want) {
         made++;
         if (!got.equals(want)) {
-            wrong++;
-            System.out.println(name + ": " + what + " answered " + got + ", due is " + want);
+            fail(what + " answered " + got + ", due is " + want);
         }
     }
 
-    /** A call that answers this, and behind which each query answers as before. */
-    void unchanged(String what, ShadowTable table, IntSupplier call, long want) {
-        String before = Picture.of(table);
-        due(what, call.getAsInt(), want);
-        dueText("the picture behind " + what, Picture.of(table), before);
+    void fail(String why) {
+        wrong++;
+        System.out.println(name + ": " + part + ": " + why);
+    }
+
+    int wrong() {
+        return wrong;
     }
 
     /** Ends the test, with exit code 1 if an answer was wrong. */
@@ -39,5 +50,15 @@ final class Checks {
         if (wrong != 0 || made == 0) {
             System.exit(1);
         }
+    }
+
+    private void stopLateTest() {
+        try {
+            Thread.sleep(MOST_MILLISECONDS);
+        } catch (InterruptedException ended) {
+            return;
+        }
+        System.out.println(name + ": " + part + ": does not end");
+        Runtime.getRuntime().halt(1);
     }
 }

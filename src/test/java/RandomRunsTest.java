@@ -1,19 +1,24 @@
-/** Long runs of calls, good and bad ones, whose answers are compared with the model's; the same runs each time. */
+/**
+ * Long runs of calls, good and bad ones, whose answers are compared with the model's; the same runs each time.
+ * A run is as long as the document lets a table be used.
+ */
 public final class RandomRunsTest {
-    private static final int RUNS = 400;
-    private static final int CALLS = 512;
+    private static final int RUNS = 6000;
+    /** So many calls are left for looking at all at the end of a run. */
+    private static final int CALLS_TO_COMPARE = 210;
+    private static final int MOST_CALLS_TO_WRITE = 100;
     private static final int[] STRANGE = {-1, 32, 100, 127, -6, 1000, Integer.MIN_VALUE, Integer.MAX_VALUE, -5};
 
     private final Checks checks;
     private final int run;
-    private final ShadowTable x = new ShadowTable();
+    private final Used x = new Used();
     private final Model model = new Model();
-    /** How many of 100 calls change rows, and how many tick: it differs from run to run. */
+    /** How many of 100 calls change rows, how many tick, and how many ask: it differs from run to run. */
     private final int changes;
     private final int ticks;
+    private final int queries;
     private final int mostTicks;
     private long seed;
-    private String call = "";
 
     private RandomRunsTest(Checks checks, int run) {
         this.checks = checks;
@@ -21,19 +26,23 @@ public final class RandomRunsTest {
         this.seed = 7919L * run + 1;
         this.changes = 20 + below(50);
         this.ticks = 2 + below(20);
+        this.queries = below(3) * 20;
         this.mostTicks = below(4) == 0 ? 99 : 1 + below(4);
     }
 
     public static void main(String[] args) {
         Checks checks = new Checks("RandomRunsTest");
         for (int run = 0; run < RUNS; run++) {
+            checks.begin("run " + run);
             new RandomRunsTest(checks, run).go();
         }
         checks.end();
     }
 
     private void go() {
-        for (int made = 0; made < CALLS; made++) {
+        // Some runs ask little, and show at their end what has become of the table.
+        int callsAtTheEnd = run % 2 == 0 ? CALLS_TO_COMPARE : 1;
+        while (x.callsLeft() > callsAtTheEnd + 10) {
             int kind = below(100);
             if (kind < changes) {
                 changeRow();
@@ -41,14 +50,15 @@ public final class RandomRunsTest {
                 int number = number(1, mostTicks);
                 due("tick " + number, x.tick(number), model.tick(number));
             } else {
-                otherCall();
+                otherCall(callsAtTheEnd);
             }
-            compareSome();
-            if (below(8) == 0) {
-                compareAll();
+            if (below(100) < queries) {
+                ask();
             }
         }
-        compareAll();
+        if (callsAtTheEnd == CALLS_TO_COMPARE) {
+            compareAll();
+        }
     }
 
     private void changeRow() {
@@ -61,7 +71,7 @@ public final class RandomRunsTest {
         }
     }
 
-    private void otherCall() {
+    private void otherCall(int callsAtTheEnd) {
         int first;
         int second;
         switch (below(16)) {
@@ -101,7 +111,9 @@ public final class RandomRunsTest {
                 due("restore", x.restore(), model.restore());
                 break;
             default:
-                writeAndRun();
+                if (x.callsLeft() > callsAtTheEnd + MOST_CALLS_TO_WRITE) {
+                    writeAndRun();
+                }
         }
     }
 
@@ -117,9 +129,12 @@ public final class RandomRunsTest {
             int place = below(orders.length() + 1);
             orders = orders.substring(0, place) + "0123456789=,pebtlusg x".charAt(below(22)) + orders.substring(place);
         }
-        for (int index = 0; index < orders.length(); index++) {
+        int length = Math.min(orders.length(), MOST_CALLS_TO_WRITE / 2 - 5);
+        for (int index = 0; index < length; index++) {
             due("append", x.append(orders.charAt(index)), model.append(orders.charAt(index)));
-            due("fault", x.fault(), model.fault());
+            if (below(4) == 0) {
+                due("fault", x.fault(), model.fault());
+            }
         }
         int character = number(32, 126);
         if (below(10) == 0) {
@@ -164,53 +179,84 @@ public final class RandomRunsTest {
     }
 
     private void due(String what, long got, long want) {
-        call = what;
-        checks.due("run " + run + ": " + what, got, want);
+        checks.due(what, got, want);
     }
 
-    private void compare(String what, long got, long want) {
-        checks.due("run " + run + ": behind " + call + ": " + what, got, want);
-    }
-
-    /** Queries with numbers from far and near. */
-    private void compareSome() {
+    /** One query, with numbers from far and near. */
+    private void ask() {
         int first = number(0, 4);
         int key = number(0, 31);
         int value = number(0, 99);
-        compare("value", x.value(first, key), model.value(first, key));
-        compare("table", x.table(first, value % 6), model.table(first, value % 6));
-        compare("copy", x.copy(first), model.copy(first));
-        compare("entry", x.entry(key, first), model.entry(key, first));
-        compare("changed", x.changed(first, key, value), model.changed(first, key, value));
-        compare("setting", x.setting(first), model.setting(first));
-        compare("total", x.total(first * 2), model.total(first * 2));
-        compare("leastLot", x.leastLot(value), model.leastLot(value));
+        switch (below(15)) {
+            case 0:
+                due("value " + first + " " + key, x.value(first, key), model.value(first, key));
+                break;
+            case 1:
+                due("table " + first + " " + value % 6, x.table(first, value % 6), model.table(first, value % 6));
+                break;
+            case 2:
+                due("copy " + first, x.copy(first), model.copy(first));
+                break;
+            case 3:
+                due("entry " + key + " " + first, x.entry(key, first), model.entry(key, first));
+                break;
+            case 4:
+                due("changed " + first + " " + key + " " + value, x.changed(first, key, value), model.changed(first, key, value));
+                break;
+            case 5:
+                due("setting " + first, x.setting(first), model.setting(first));
+                break;
+            case 6, 7:
+                due("total " + first * 2, x.total(first * 2), model.total(first * 2));
+                break;
+            case 8:
+                due("leastLot " + value, x.leastLot(value), model.leastLot(value));
+                break;
+            case 9:
+                due("leastLot " + value % 10, x.leastLot(value % 10), model.leastLot(value % 10));
+                break;
+            case 10:
+                due("readyIn", x.readyIn(), model.readyIn());
+                break;
+            case 11:
+                due("differences", x.differences(), model.differences());
+                break;
+            case 12:
+                due("firstDifference", x.firstDifference(), model.firstDifference());
+                break;
+            case 13:
+                due("states", x.states(), model.states());
+                break;
+            default:
+                checks.dueDouble("progress", x.progress(), model.progress());
+        }
     }
 
+    /** All that there is to ask: 210 calls at most. */
     private void compareAll() {
         for (int table = 0; table < 3; table++) {
             for (int key = 0; key < 32; key++) {
-                compare("value " + table + " " + key, x.value(table, key), model.value(table, key));
+                due("value " + table + " " + key, x.value(table, key), model.value(table, key));
             }
             for (int what = 0; what < 4; what++) {
-                compare("table " + table + " " + what, x.table(table, what), model.table(table, what));
+                due("table " + table + " " + what, x.table(table, what), model.table(table, what));
             }
         }
         for (int entry = 0; entry < 25; entry++) {
-            compare("entry key " + entry, x.entry(entry, 0), model.entry(entry, 0));
-            compare("entry value " + entry, x.entry(entry, 1), model.entry(entry, 1));
+            due("entry key " + entry, x.entry(entry, 0), model.entry(entry, 0));
+            due("entry value " + entry, x.entry(entry, 1), model.entry(entry, 1));
         }
-        for (int what = 0; what < 8; what++) {
-            compare("total " + what, x.total(what), model.total(what));
-            compare("copy " + what, x.copy(what), model.copy(what));
-            compare("setting " + what, x.setting(what), model.setting(what));
-            compare("leastLot " + what, x.leastLot(what), model.leastLot(what));
+        for (int what = 0; what < 9; what++) {
+            due("total " + what, x.total(what), model.total(what));
+            due("copy " + what, x.copy(what), model.copy(what));
+            due("setting " + what, x.setting(what), model.setting(what));
+            due("leastLot " + what, x.leastLot(what), model.leastLot(what));
         }
-        compare("differences", x.differences(), model.differences());
-        compare("firstDifference", x.firstDifference(), model.firstDifference());
-        compare("readyIn", x.readyIn(), model.readyIn());
-        compare("states", x.states(), model.states());
-        compare("fault", x.fault(), model.fault());
-        checks.dueDouble("run " + run + ": progress", x.progress(), model.progress());
+        due("differences", x.differences(), model.differences());
+        due("firstDifference", x.firstDifference(), model.firstDifference());
+        due("readyIn", x.readyIn(), model.readyIn());
+        due("states", x.states(), model.states());
+        due("fault", x.fault(), model.fault());
+        checks.dueDouble("progress", x.progress(), model.progress());
     }
 }

@@ -1,212 +1,503 @@
-/** Promises 1 to 3, 18 and 19: a new object, the rows, and what is told about tables. */
-public final class RowsTest {
-    private static final Checks CHECKS = new Checks("RowsTest");
-
-    public static void main(String[] args) {
-        promise1NewObject();
-        promise2Put();
-        promise2PutWithFullLog();
-        promise3Erase();
-        promise3EraseWithFullLog();
-        promise18Value();
-        promise19Table();
-        CHECKS.end();
+/** Promises 1 to 3: a new object, and the rows of the live table. */
+public final class RowsTest extends Sentences {
+    public static void main(String[] arguments) {
+        new RowsTest().runAll();
     }
 
-    private static void promise1NewObject() {
-        ShadowTable x = new ShadowTable();
-        CHECKS.due("new: rows", x.table(ShadowTable.LIVE, 0), 0);
-        CHECKS.due("new: a value", x.value(ShadowTable.LIVE, 0), ShadowTable.NONE);
-        CHECKS.due("new: shadow table", x.table(ShadowTable.SHADOW, 0), ShadowTable.NONE);
-        CHECKS.due("new: old table", x.table(ShadowTable.OLD, 0), ShadowTable.NONE);
-        CHECKS.due("new: phase", x.copy(0), 0);
-        CHECKS.due("new: fault", x.fault(), 0);
-        CHECKS.due("new: states", x.states(), 0);
-        CHECKS.due("new: undo", x.undo(), ShadowTable.NONE);
-        CHECKS.due("new: restore", x.restore(), ShadowTable.NOT_POSSIBLE);
-        int[] settings = {3, 6, 5, 0};
-        for (int setting = 0; setting < 4; setting++) {
-            CHECKS.due("new: setting " + setting, x.setting(setting), settings[setting]);
-        }
-        for (int what = 0; what < 8; what++) {
-            CHECKS.due("new: total " + what, x.total(what), 0);
-        }
-        x.put(0, 1);
-        CHECKS.due("another new object's value", new ShadowTable().value(ShadowTable.LIVE, 0), ShadowTable.NONE);
-        CHECKS.due("clearText of a new object", new ShadowTable().clearText(), 0);
+    @Override
+    void tell() {
+        promise1();
+        promise1UsedUp();
+        promise2();
+        promise2Refused();
+        promise2Log();
+        promise2FullLog();
+        promise3();
+        promise3Refused();
+        promise3FullLog();
     }
 
-    private static void promise2Put() {
-        ShadowTable x = new ShadowTable();
-        CHECKS.due("put adds", x.put(0, 0), ShadowTable.NONE);
-        CHECKS.due("put changes", x.put(0, 99), 0);
-        CHECKS.due("put again", x.put(0, 99), 99);
-        CHECKS.due("put at the last key", x.put(31, 5), ShadowTable.NONE);
-        CHECKS.due("value", x.value(0, 0), 99);
-        CHECKS.due("states", x.states(), 4);
-        int[] badKeys = {-1, 32, Integer.MIN_VALUE, Integer.MAX_VALUE};
-        for (int key : badKeys) {
-            CHECKS.unchanged("put at " + key, x, () -> x.put(key, 5), ShadowTable.NO_SUCH);
-            CHECKS.unchanged("put of 100 at " + key, x, () -> x.put(key, 100), ShadowTable.NO_SUCH);
-        }
-        int[] badValues = {-1, 100, Integer.MIN_VALUE, Integer.MAX_VALUE};
-        for (int value : badValues) {
-            CHECKS.unchanged("put of " + value, x, () -> x.put(0, value), ShadowTable.BAD_VALUE);
-        }
-
-        ShadowTable y = Setups.locked(2, 24);
-        CHECKS.unchanged("put under a lock", y, () -> y.put(0, 1), ShadowTable.NOT_POSSIBLE);
-        CHECKS.unchanged("bad key under a lock", y, () -> y.put(32, 1), ShadowTable.NO_SUCH);
-        CHECKS.unchanged("bad value under a lock", y, () -> y.put(0, 100), ShadowTable.BAD_VALUE);
-        y.set(ShadowTable.STRICT, 1);
-        CHECKS.unchanged("put under a lock, strict", y, () -> y.put(0, 1), ShadowTable.NOT_POSSIBLE);
-
-        ShadowTable z = Setups.withLog(0);
-        z.put(4, 5);
-        z.put(4, 5);
-        CHECKS.due("the same value is a change, too", z.copy(4), 2);
-        CHECKS.due("its entry", z.entry(1, 1), 5);
+    private void promise1() {
+        test(1, "Creates a live table without rows", "all keys", () -> {
+            Used x = new Used();
+            due("rows", x.table(LIVE, 0), 0);
+            for (int key = 0; key < 32; key++) {
+                due("value " + key, x.value(LIVE, key), NONE);
+            }
+        });
+        test(1, "There is the live table, without rows at first.", "empty, but there", () -> {
+            Used x = new Used();
+            due("number", x.table(LIVE, 0), 0);
+            due("sum", x.table(LIVE, 1), 0);
+        });
+        test(1, "without a copy and without an old table", "no copy", () -> {
+            Used x = new Used();
+            dueCopy("new", x, 0, NONE, NONE, NONE, NONE, NONE);
+            due("rows of the shadow table", x.table(SHADOW, 0), NONE);
+        });
+        test(1, "without a copy and without an old table", "no old table", () -> {
+            Used x = new Used();
+            due("rows of the old table", x.table(OLD, 0), NONE);
+            due("a value of the old table", x.value(OLD, 0), NONE);
+        });
+        test(1, "with an empty text and an empty history", "empty text", () -> {
+            due("clearText", new Used().clearText(), 0);
+            due("fault", new Used().fault(), 0);
+        });
+        test(1, "with an empty text and an empty history", "empty history", () -> {
+            due("states", new Used().states(), 0);
+            due("undo", new Used().undo(), NONE);
+        });
+        test(1, "without a snapshot", "nothing to restore", () -> due("restore", new Used().restore(), NOT_POSSIBLE));
+        test(1, "There are the settings STEPS (1 to 8; 3 at first), LAG (0 to 24; 6 at first), "
+            + "PATIENCE (1 to 20; 5 at first) and STRICT (0 or 1; 0 at first).", "at first", () -> {
+            Used x = new Used();
+            due("STEPS", x.setting(STEPS), 3);
+            due("LAG", x.setting(LAG), 6);
+            due("PATIENCE", x.setting(PATIENCE), 5);
+            due("STRICT", x.setting(STRICT), 0);
+        });
+        test(1, "Creates a live table without rows", "another object has rows, copy, text, snapshot", () -> {
+            Used other = Setups.withText("t");
+            other.put(0, 1);
+            other.set(LAG, 0);
+            other.begin(0, 1);
+            other.tick(1);
+            other.save();
+            Used x = new Used();
+            due("value", x.value(LIVE, 0), NONE);
+            due("phase", x.copy(0), 0);
+            due("LAG", x.setting(LAG), 6);
+            due("ticks", x.total(7), 0);
+            due("states", x.states(), 0);
+            due("clearText", x.clearText(), 0);
+            due("restore", x.restore(), NOT_POSSIBLE);
+        });
     }
 
-    private static void promise2PutWithFullLog() {
-        ShadowTable x = Setups.withLog(23);
-        CHECKS.due("the 24th entry", x.put(31, 1), ShadowTable.NONE);
-        CHECKS.due("entries", x.copy(4), 24);
-        x.set(ShadowTable.STRICT, 1);
-        CHECKS.unchanged("put, strict", x, () -> x.put(0, 1), ShadowTable.TOO_MANY);
-        CHECKS.unchanged("bad key, strict", x, () -> x.put(-1, 1), ShadowTable.NO_SUCH);
-        CHECKS.unchanged("bad value, strict", x, () -> x.put(0, -1), ShadowTable.BAD_VALUE);
-        x.set(ShadowTable.STRICT, 0);
-        CHECKS.due("put, not strict", x.put(3, 77), 3);
-        CHECKS.due("the phase", x.copy(0), 0);
-        CHECKS.due("copies given up", x.total(2), 1);
-        CHECKS.due("the value", x.value(0, 3), 77);
-        CHECKS.due("the shadow table", x.table(ShadowTable.SHADOW, 0), ShadowTable.NONE);
-        CHECKS.due("another put", x.put(3, 78), 77);
-        CHECKS.due("copies given up", x.total(2), 1);
-
-        ShadowTable y = Setups.withLog(24);
-        y.set(ShadowTable.STRICT, 1);
-        y.tick(1);
-        CHECKS.due("put when three entries are applied", y.put(3, 1), 3);
-        CHECKS.due("its place in the log", y.entry(21, 1), 1);
+    private void promise1UsedUp() {
+        String words = "An object is used for at most 512 calls after it has been made";
+        test(1, words, "512 puts", () -> {
+            Used x = new Used();
+            for (int call = 0; call < 512; call++) {
+                due("put " + call, x.put(call % 32, call % 100), call < 32 ? NONE : (call - 32) % 100);
+            }
+        });
+        test(1, words, "511 times the most ticks", () -> {
+            Used x = new Used();
+            for (int call = 0; call < 511; call++) {
+                due("tick " + call, x.tick(99), 0);
+            }
+            due("ticks", x.total(7), 511 * 99);
+        });
+        test(1, words, "255 copies", () -> {
+            Used x = new Used();
+            for (int call = 0; call < 255; call++) {
+                due("begin " + call, x.begin(call % 5, call % 8 + 1), 0);
+                due("giveUp " + call, x.giveUp(), 0);
+            }
+            due("copies begun", x.total(0), 255);
+            due("copies given up", x.total(2), 255);
+        });
+        test(1, words, "runs of the longest ticks", () -> {
+            Used x = new Used();
+            Setups.write(x, "b01,t99,t99,t99,t99,t99,t99,t99,t99,t99,t99,t99,t99,t99,t99,t99,t99,t99,t99,g");
+            int runs = 0;
+            while (x.callsLeft() > 1) {
+                due("run " + runs, x.run(), 20);
+                runs++;
+            }
+            due("ticks", x.total(7), runs * 18L * 99);
+        });
+        test(1, words, "256 times put and undo", () -> {
+            Used x = new Used();
+            for (int call = 0; call < 256; call++) {
+                due("put " + call, x.put(31, 99), NONE);
+                due("undo " + call, x.undo(), 0);
+            }
+        });
+        test(1, words, "512 characters", () -> {
+            Used x = new Used();
+            for (int call = 0; call < 512; call++) {
+                due("append " + call, x.append('t'), call < 80 ? call + 1 : TOO_MANY);
+            }
+        });
     }
 
-    private static void promise3Erase() {
-        ShadowTable x = Setups.withRows(3);
-        CHECKS.due("erase", x.erase(1), 10);
-        CHECKS.due("value", x.value(0, 1), ShadowTable.NONE);
-        CHECKS.due("rows", x.table(0, 0), 2);
-        CHECKS.due("erase again", x.erase(1), ShadowTable.NONE);
-        CHECKS.due("it is an action all the same", x.states(), 5);
-        CHECKS.due("undo of it", x.undo(), 4);
-        CHECKS.due("undo of the first", x.undo(), 3);
-        CHECKS.due("value", x.value(0, 1), 10);
-        int[] badKeys = {-1, 32, Integer.MIN_VALUE, Integer.MAX_VALUE};
-        for (int key : badKeys) {
-            CHECKS.unchanged("erase at " + key, x, () -> x.erase(key), ShadowTable.NO_SUCH);
-        }
-
-        ShadowTable y = Setups.locked(2, 0);
-        CHECKS.unchanged("erase under a lock", y, () -> y.erase(0), ShadowTable.NOT_POSSIBLE);
-        CHECKS.unchanged("erase of nothing under a lock", y, () -> y.erase(9), ShadowTable.NOT_POSSIBLE);
-        CHECKS.unchanged("bad key under a lock", y, () -> y.erase(32), ShadowTable.NO_SUCH);
-
-        ShadowTable z = Setups.withLog(1);
-        z.erase(0);
-        z.erase(0);
-        CHECKS.due("only what was there is logged", z.copy(4), 2);
-        CHECKS.due("the entry's key", z.entry(1, 0), 0);
-        CHECKS.due("the entry tells of no row", z.entry(1, 1), ShadowTable.NONE);
+    private void promise2() {
+        test(2, "`key`: 0 to 31", "least and greatest", () -> {
+            Used x = new Used();
+            due("put at 0", x.put(0, 5), NONE);
+            due("put at 31", x.put(31, 6), NONE);
+            due("value 0", x.value(LIVE, 0), 5);
+            due("value 31", x.value(LIVE, 31), 6);
+        });
+        test(2, "A table has rows; a row has a key from 0 to 31 and a value from 0 to 99;", "a row for each key", () -> {
+            Used x = new Used();
+            for (int key = 0; key < 32; key++) {
+                due("put at " + key, x.put(key, 99 - key), NONE);
+            }
+            for (int key = 0; key < 32; key++) {
+                due("value " + key, x.value(LIVE, key), 99 - key);
+            }
+        });
+        test(2, "`value`: 0 to 99", "least and greatest", () -> {
+            Used x = new Used();
+            due("put of 0", x.put(7, 0), NONE);
+            due("value", x.value(LIVE, 7), 0);
+            due("put of 99", x.put(7, 99), 0);
+            due("value", x.value(LIVE, 7), 99);
+        });
+        test(2, "Gives a key a value in the live table: a row is added, or its value is changed", "only this key", () -> {
+            Used x = Setups.withRows(3);
+            x.put(1, 50);
+            x.put(3, 60);
+            dueValues("live", x, LIVE, 3, 50, 17, 60, NONE);
+        });
+        test(2, "at most one row of a table has a certain key", "put twice", () -> {
+            Used x = new Used();
+            x.put(4, 1);
+            x.put(4, 2);
+            due("rows", x.table(LIVE, 0), 1);
+            due("sum", x.table(LIVE, 1), 2);
+        });
+        test(2, "at most one row of a table has a certain key", "the table is full", () -> {
+            Used x = Setups.withRows(32);
+            due("put at 31", x.put(31, 1), 20);
+            due("rows", x.table(LIVE, 0), 32);
+        });
+        test(2, "Returns the previous value, NONE if there was no such row", "no row, a row, a row again", () -> {
+            Used x = new Used();
+            due("put", x.put(9, 8), NONE);
+            due("put", x.put(9, 7), 8);
+            x.erase(9);
+            due("put", x.put(9, 6), NONE);
+        });
+        test(2, "Returns the previous value, NONE if there was no such row", "the previous value is 0", () -> {
+            Used x = new Used();
+            x.put(9, 0);
+            due("put", x.put(9, 1), 0);
+        });
+        test(2, "While the phase is 3, put and erase are refused.", "they are possible in the phases 0 to 2", () -> {
+            for (int phase = 0; phase < 3; phase++) {
+                due("put in the phase " + phase, Setups.inPhase(phase, 1).put(0, 4), 3);
+                due("put of a new row in the phase " + phase, Setups.inPhase(phase, 1).put(1, 4), NONE);
+            }
+        });
+        test(2, "While the phase is 3, put and erase are refused.", "they are possible behind unlock", () -> {
+            Used x = Setups.inPhase(3, 1);
+            x.unlock();
+            due("put", x.put(0, 4), 3);
+        });
+        test(2, "While the phase is 3, put and erase are refused.", "they are possible behind a timeout", () -> {
+            Used x = Setups.inPhase(3, 1);
+            x.tick(6);
+            due("put", x.put(0, 4), 3);
+        });
+        test(2, "While the phase is 3, put and erase are refused.", "they are possible behind a swap", () -> {
+            Used x = Setups.inPhase(3, 1);
+            x.swap();
+            due("put", x.put(0, 4), 3);
+        });
     }
 
-    private static void promise3EraseWithFullLog() {
-        ShadowTable x = Setups.withLog(24);
-        CHECKS.due("erase of nothing", x.erase(30), ShadowTable.NONE);
-        CHECKS.due("the copy goes on", x.copy(4), 24);
-        x.set(ShadowTable.STRICT, 1);
-        CHECKS.due("erase of nothing, strict", x.erase(30), ShadowTable.NONE);
-        CHECKS.unchanged("erase, strict", x, () -> x.erase(5), ShadowTable.TOO_MANY);
-        CHECKS.unchanged("bad key, strict", x, () -> x.erase(99), ShadowTable.NO_SUCH);
-        x.set(ShadowTable.STRICT, 0);
-        CHECKS.due("erase, not strict", x.erase(5), 5);
-        CHECKS.due("the phase", x.copy(0), 0);
-        CHECKS.due("copies given up", x.total(2), 1);
-        CHECKS.due("the value", x.value(0, 5), ShadowTable.NONE);
+    private void promise2Refused() {
+        test(2, "NO_SUCH if there is no such key", "too small and too large", () -> {
+            for (int key : NOT_KEYS) {
+                changesNothing("put at " + key, () -> Setups.withRows(2), x -> x.put(key, 5), NO_SUCH);
+            }
+        });
+        test(2, "BAD_VALUE if value is out of range", "too small and too large", () -> {
+            for (int value : NOT_VALUES) {
+                changesNothing("put of " + value, () -> Setups.withRows(2), x -> x.put(0, value), BAD_VALUE);
+                changesNothing("put of a new row of " + value, () -> Setups.withRows(2), x -> x.put(9, value), BAD_VALUE);
+            }
+        });
+        test(2, "NOT_POSSIBLE if the phase is 3", "a row, and no row", () -> {
+            changesNothing("put at 0", () -> Setups.inPhase(3, 2), x -> x.put(0, 5), NOT_POSSIBLE);
+            changesNothing("put of the same", () -> Setups.inPhase(3, 2), x -> x.put(0, 3), NOT_POSSIBLE);
+            changesNothing("put at 9", () -> Setups.inPhase(3, 2), x -> x.put(9, 5), NOT_POSSIBLE);
+        });
+        test(2, "NOT_POSSIBLE if the phase is 3", "the lock is as old as PATIENCE", () ->
+            changesNothing("put", () -> {
+                Used x = Setups.inPhase(3, 2);
+                x.tick(5);
+                return x;
+            }, x -> x.put(0, 5), NOT_POSSIBLE));
+        test(2, "NOT_POSSIBLE if the phase is 3", "a full log: the copy is not given up", () ->
+            changesNothing("put", () -> Setups.lockedLog(24), x -> x.put(0, 5), NOT_POSSIBLE));
+        test(2, "TOO_MANY if the change is refused because of the log", "changes nothing", () -> {
+            changesNothing("put at 0", () -> strict(Setups.withLog(24)), x -> x.put(0, 5), TOO_MANY);
+            changesNothing("put at 31", () -> strict(Setups.withLog(24)), x -> x.put(31, 5), TOO_MANY);
+        });
+        test(2, "The error codes of a method are listed in the order in which they are checked, "
+            + "and the first one that applies is returned.", "put", () -> {
+            due("key and value", new Used().put(-1, -1), NO_SUCH);
+            due("key and value", new Used().put(32, 100), NO_SUCH);
+            Used locked = strict(Setups.lockedLog(24));
+            due("key, value, phase and log", locked.put(32, 100), NO_SUCH);
+            due("value, phase and log", locked.put(31, 100), BAD_VALUE);
+            due("phase and log", locked.put(31, 99), NOT_POSSIBLE);
+            Used full = strict(Setups.withLog(24));
+            due("key and log", full.put(-1, 5), NO_SUCH);
+            due("value and log", full.put(0, -1), BAD_VALUE);
+            due("log", full.put(0, 0), TOO_MANY);
+        });
+        test(2, "A method that returns an error code changes nothing.", "a refused put gives no copy up", () -> {
+            changesNothing("a bad key", () -> Setups.withLog(24), x -> x.put(32, 5), NO_SUCH);
+            changesNothing("a bad value", () -> Setups.withLog(24), x -> x.put(0, 100), BAD_VALUE);
+        });
     }
 
-    private static void promise18Value() {
-        ShadowTable x = Setups.withRows(2);
-        CHECKS.due("no shadow table", x.value(ShadowTable.SHADOW, 0), ShadowTable.NONE);
-        CHECKS.due("no old table", x.value(ShadowTable.OLD, 0), ShadowTable.NONE);
-        x.begin(1, 1);
-        x.tick(1);
-        CHECKS.due("live", x.value(ShadowTable.LIVE, 0), 3);
-        CHECKS.due("shadow", x.value(ShadowTable.SHADOW, 0), 6);
-        CHECKS.due("not yet in the shadow", x.value(ShadowTable.SHADOW, 1), ShadowTable.NONE);
-        x.tick(9);
-        x.lock();
-        x.swap();
-        CHECKS.due("live behind a swap", x.value(ShadowTable.LIVE, 1), 20);
-        CHECKS.due("old behind a swap", x.value(ShadowTable.OLD, 1), 10);
-        CHECKS.due("no shadow behind a swap", x.value(ShadowTable.SHADOW, 1), ShadowTable.NONE);
-        x.put(1, 5);
-        CHECKS.due("the old table stays", x.value(ShadowTable.OLD, 1), 10);
-        CHECKS.unchanged("key 32", x, () -> x.value(0, 32), ShadowTable.NO_SUCH);
-        CHECKS.unchanged("key -1", x, () -> x.value(0, -1), ShadowTable.NO_SUCH);
-        CHECKS.unchanged("key and table", x, () -> x.value(3, 32), ShadowTable.NO_SUCH);
-        CHECKS.unchanged("table 3", x, () -> x.value(3, 0), ShadowTable.BAD_VALUE);
-        CHECKS.unchanged("table -1", x, () -> x.value(-1, 31), ShadowTable.BAD_VALUE);
-        CHECKS.unchanged("extremes", x, () -> x.value(Integer.MAX_VALUE, Integer.MIN_VALUE), ShadowTable.NO_SUCH);
+    private static Used strict(Used x) {
+        x.set(STRICT, 1);
+        return x;
     }
 
-    private static void promise19Table() {
-        ShadowTable x = new ShadowTable();
-        int[] ofNothing = {0, 0, ShadowTable.NONE, ShadowTable.NONE};
-        for (int what = 0; what < 4; what++) {
-            CHECKS.due("live without rows " + what, x.table(0, what), ofNothing[what]);
-            CHECKS.due("no shadow " + what, x.table(1, what), ShadowTable.NONE);
-            CHECKS.due("no old " + what, x.table(2, what), ShadowTable.NONE);
-        }
-        x.put(0, 7);
-        int[] ofOne = {1, 7, 0, 0};
-        for (int what = 0; what < 4; what++) {
-            CHECKS.due("live with the row 0 alone " + what, x.table(0, what), ofOne[what]);
-        }
-        x.erase(0);
-        x.put(5, 99);
-        x.put(30, 0);
-        x.put(31, 98);
-        x.erase(31);
-        int[] ofTwo = {2, 99, 5, 30};
-        for (int what = 0; what < 4; what++) {
-            CHECKS.due("live with two rows " + what, x.table(0, what), ofTwo[what]);
-        }
-        x.begin(4, 1);
-        CHECKS.due("shadow without rows: number", x.table(1, 0), 0);
-        CHECKS.due("shadow without rows: sum", x.table(1, 1), 0);
-        CHECKS.due("shadow without rows: least", x.table(1, 2), ShadowTable.NONE);
-        CHECKS.due("shadow without rows: greatest", x.table(1, 3), ShadowTable.NONE);
-        x.tick(9);
-        int[] ofShadow = {2, 34, 5, 30};
-        for (int what = 0; what < 4; what++) {
-            CHECKS.due("shadow with two rows " + what, x.table(1, what), ofShadow[what]);
-        }
-        x.lock();
-        x.swap();
-        for (int what = 0; what < 4; what++) {
-            CHECKS.due("live behind a swap " + what, x.table(0, what), ofShadow[what]);
-            CHECKS.due("old behind a swap " + what, x.table(2, what), ofTwo[what]);
-            CHECKS.due("shadow behind a swap " + what, x.table(1, what), ShadowTable.NONE);
-        }
-        x.put(0, 1);
-        x.put(31, 1);
-        CHECKS.due("least of all keys", x.table(0, 2), 0);
-        CHECKS.due("greatest of all keys", x.table(0, 3), 31);
-        int[][] bad = {{-1, 0}, {3, 0}, {0, -1}, {0, 4}, {1, 4}, {Integer.MIN_VALUE, 2}, {2, Integer.MAX_VALUE}};
-        for (int[] pair : bad) {
-            CHECKS.unchanged("table " + pair[0] + " " + pair[1], x, () -> x.table(pair[0], pair[1]),
-                ShadowTable.BAD_VALUE);
-        }
+    private void promise2Log() {
+        test(2, "this counts as a change even if it has this value already", "it is logged", () -> {
+            Used x = Setups.withLog(0);
+            x.put(4, 5);
+            due("put of the same", x.put(4, 5), 5);
+            due("entries", x.copy(4), 2);
+            due("its key", x.entry(1, 0), 4);
+            due("its value", x.entry(1, 1), 5);
+        });
+        test(2, "this counts as a change even if it has this value already", "a full log, STRICT 0", () -> {
+            Used x = Setups.withLog(24);
+            due("put of the same", x.put(5, 5), 5);
+            due("phase", x.copy(0), 0);
+        });
+        test(2, "this counts as a change even if it has this value already", "a full log, STRICT 1", () ->
+            due("put of the same", strict(Setups.withLog(24)).put(5, 5), TOO_MANY));
+        test(2, "each change of the live table by put or erase adds an entry to the end of the log: "
+            + "the key and the new value", "put", () -> {
+            for (int phase = 1; phase < 3; phase++) {
+                Used x = Setups.inPhase(phase, 2);
+                x.put(31, 98);
+                x.put(0, 97);
+                due("entries", x.copy(4), 2);
+                due("key of the first", x.entry(0, 0), 31);
+                due("value of the first", x.entry(0, 1), 98);
+                due("key of the last", x.entry(1, 0), 0);
+                due("value of the last", x.entry(1, 1), 97);
+            }
+        });
+        test(2, "While a copy is under way, each change of the live table by put or erase adds an entry",
+            "not without a copy", () -> {
+            Used x = Setups.withRows(3);
+            x.begin(0, 1);
+            due("entries", x.copy(4), 0);
+            x.put(0, 1);
+            x.giveUp();
+            x.put(0, 2);
+            x.begin(0, 1);
+            due("entries of the next copy", x.copy(4), 0);
+        });
+        test(2, "The log has room for 24 entries.", "the 24th finds room, STRICT 0", () -> {
+            Used x = Setups.withLog(23);
+            due("put", x.put(31, 1), NONE);
+            due("phase", x.copy(0), 1);
+            due("entries", x.copy(4), 24);
+            due("the last entry", x.entry(23, 0), 31);
+        });
+        test(2, "The log has room for 24 entries.", "the 24th finds room, STRICT 1", () -> {
+            Used x = strict(Setups.withLog(23));
+            due("put", x.put(31, 1), NONE);
+            due("entries", x.copy(4), 24);
+        });
+        test(2, "The log has room for 24 entries.", "there is room again behind a tick", () -> {
+            Used x = strict(Setups.withLog(24));
+            x.set(STEPS, 1);
+            x.tick(1);
+            due("put", x.put(31, 1), NONE);
+            due("entries", x.copy(4), 24);
+            due("the next put", x.put(30, 1), TOO_MANY);
+        });
+        test(2, "If a copy is under way and its log has 24 entries", "no copy: many puts are no matter", () -> {
+            Used x = new Used();
+            x.set(STRICT, 1);
+            for (int put = 0; put < 40; put++) {
+                due("put " + put, x.put(0, put), put == 0 ? NONE : put - 1);
+            }
+            due("copies given up", x.total(2), 0);
+        });
+    }
+
+    private void promise2FullLog() {
+        String giveUp = "with STRICT 0 the copy is given up, which is counted, and the change is made";
+        test(2, giveUp, "in the phases 1 and 2", () -> {
+            for (Used x : new Used[] {Setups.withLog(24), Setups.chasingLog(24)}) {
+                due("put", x.put(3, 77), 3);
+                dueCopy("given up", x, 0, NONE, NONE, NONE, NONE, NONE);
+                due("copies given up", x.total(2), 1);
+                due("the value", x.value(LIVE, 3), 77);
+                due("the shadow table", x.table(SHADOW, 0), NONE);
+                due("the log", x.entry(0, 0), NONE);
+            }
+        });
+        test(2, giveUp, "a new row", () -> {
+            Used x = Setups.withLog(24);
+            due("put", x.put(31, 0), NONE);
+            due("rows", x.table(LIVE, 0), 25);
+            due("phase", x.copy(0), 0);
+        });
+        test(2, giveUp, "no old table comes of it, and no swap", () -> {
+            Used x = Setups.withLog(24);
+            x.put(31, 0);
+            due("old table", x.table(OLD, 0), NONE);
+            due("swaps", x.total(1), 0);
+        });
+        test(2, giveUp, "the puts behind it meet no log", () -> {
+            Used x = Setups.withLog(24);
+            x.put(31, 0);
+            due("the next put", x.put(31, 1), 0);
+            due("copies given up", x.total(2), 1);
+            due("begin", x.begin(0, 1), 25);
+            due("entries", x.copy(4), 0);
+        });
+        test(2, giveUp, "one state is recorded", () ->
+            isRecorded("put", () -> Setups.withLog(24), x -> x.put(3, 77)));
+        test(2, "with STRICT 1 the change is refused", "in the phases 1 and 2", () -> {
+            for (Used x : new Used[] {strict(Setups.withLog(24)), strict(Setups.chasingLog(24))}) {
+                due("put", x.put(3, 77), TOO_MANY);
+                due("put of a new row", x.put(31, 77), TOO_MANY);
+                due("the value", x.value(LIVE, 3), 3);
+                due("entries", x.copy(4), 24);
+                due("copies given up", x.total(2), 0);
+            }
+        });
+        test(2, "with STRICT 1 the change is refused", "STRICT is looked at when the log is full", () -> {
+            Used x = strict(Setups.withLog(24));
+            due("put", x.put(3, 77), TOO_MANY);
+            x.set(STRICT, 0);
+            due("put", x.put(3, 77), 3);
+            due("phase", x.copy(0), 0);
+        });
+    }
+
+    private void promise3() {
+        test(3, "Removes a row from the live table", "only this row", () -> {
+            Used x = Setups.withRows(3);
+            due("erase", x.erase(1), 10);
+            dueValues("live", x, LIVE, 3, NONE, 17);
+            due("rows", x.table(LIVE, 0), 2);
+        });
+        test(3, "Removes a row from the live table", "the last row: the table is empty", () -> {
+            Used x = Setups.withRows(1);
+            due("erase", x.erase(0), 3);
+            due("rows", x.table(LIVE, 0), 0);
+            due("least key", x.table(LIVE, 2), NONE);
+        });
+        test(3, "Removes a row from the live table", "not from the other tables", () -> {
+            Used x = Setups.swapped(2);
+            x.begin(0, 8);
+            x.tick(1);
+            x.erase(1);
+            due("live", x.value(LIVE, 1), NONE);
+            due("shadow", x.value(SHADOW, 1), 20);
+            due("old", x.value(OLD, 1), 10);
+        });
+        test(3, "`key`: 0 to 31", "least and greatest", () -> {
+            Used x = Setups.withRows(32);
+            due("erase at 0", x.erase(0), 3);
+            due("erase at 31", x.erase(31), 20);
+            due("rows", x.table(LIVE, 0), 30);
+        });
+        test(3, "Returns the previous value, NONE if there was no such row", "a row of 0, and no row", () -> {
+            Used x = new Used();
+            x.put(8, 0);
+            due("erase", x.erase(8), 0);
+            due("erase again", x.erase(8), NONE);
+            due("erase in an empty table", new Used().erase(0), NONE);
+        });
+        test(3, "this counts as a change only if there is such a row", "what is not there is not logged", () -> {
+            Used x = Setups.withLog(1);
+            due("erase of nothing", x.erase(9), NONE);
+            due("entries", x.copy(4), 1);
+            due("erase", x.erase(0), 0);
+            due("entries", x.copy(4), 2);
+            due("erase again", x.erase(0), NONE);
+            due("entries", x.copy(4), 2);
+        });
+        test(3, "or the key and that it has no row now", "the entry", () -> {
+            Used x = Setups.withLog(2);
+            x.erase(1);
+            due("its key", x.entry(2, 0), 1);
+            due("its value", x.entry(2, 1), NONE);
+        });
+        test(3, "There is no row or no result; this is not an error code.", "it is recorded", () ->
+            isRecorded("erase of nothing", () -> Setups.withRows(2), x -> x.erase(9)));
+        test(3, "NOT_POSSIBLE if the phase is 3", "it is possible in the phases 0 to 2", () -> {
+            for (int phase = 0; phase < 3; phase++) {
+                due("erase in the phase " + phase, Setups.inPhase(phase, 1).erase(0), 3);
+                due("erase of nothing in the phase " + phase, Setups.inPhase(phase, 1).erase(1), NONE);
+            }
+        });
+    }
+
+    private void promise3Refused() {
+        test(3, "NO_SUCH if there is no such key", "too small and too large", () -> {
+            for (int key : NOT_KEYS) {
+                changesNothing("erase at " + key, () -> Setups.withRows(2), x -> x.erase(key), NO_SUCH);
+            }
+        });
+        test(3, "NOT_POSSIBLE if the phase is 3", "a row", () ->
+            changesNothing("erase", () -> Setups.inPhase(3, 2), x -> x.erase(0), NOT_POSSIBLE));
+        test(3, "NOT_POSSIBLE if the phase is 3", "no row", () ->
+            changesNothing("erase of nothing", () -> Setups.inPhase(3, 2), x -> x.erase(9), NOT_POSSIBLE));
+        test(3, "NOT_POSSIBLE if the phase is 3", "a full log: the copy is not given up", () ->
+            changesNothing("erase", () -> Setups.lockedLog(24), x -> x.erase(0), NOT_POSSIBLE));
+        test(3, "TOO_MANY if the change is refused because of the log", "changes nothing", () ->
+            changesNothing("erase", () -> strict(Setups.withLog(24)), x -> x.erase(5), TOO_MANY));
+        test(3, "The error codes of a method are listed in the order in which they are checked", "erase", () -> {
+            Used locked = strict(Setups.lockedLog(24));
+            due("key, phase and log", locked.erase(32), NO_SUCH);
+            due("phase and log", locked.erase(0), NOT_POSSIBLE);
+            Used full = strict(Setups.withLog(24));
+            due("key and log", full.erase(-1), NO_SUCH);
+            due("log", full.erase(0), TOO_MANY);
+        });
+        test(3, "A method that returns an error code changes nothing.", "a refused erase gives no copy up", () ->
+            changesNothing("a bad key", () -> Setups.withLog(24), x -> x.erase(32), NO_SUCH));
+    }
+
+    private void promise3FullLog() {
+        String words = "(otherwise nothing is refused or given up because of the log)";
+        test(3, words, "no row, a full log, STRICT 0", () -> {
+            Used x = Setups.withLog(24);
+            due("erase of nothing", x.erase(30), NONE);
+            due("phase", x.copy(0), 1);
+            due("entries", x.copy(4), 24);
+            due("copies given up", x.total(2), 0);
+        });
+        test(3, words, "no row, a full log, STRICT 1", () -> {
+            Used x = strict(Setups.withLog(24));
+            due("erase of nothing", x.erase(30), NONE);
+            due("entries", x.copy(4), 24);
+        });
+        test(3, "The log is treated as by put.", "a full log, STRICT 0", () -> {
+            for (Used x : new Used[] {Setups.withLog(24), Setups.chasingLog(24)}) {
+                due("erase", x.erase(5), 5);
+                due("phase", x.copy(0), 0);
+                due("copies given up", x.total(2), 1);
+                due("value", x.value(LIVE, 5), NONE);
+                due("shadow table", x.table(SHADOW, 0), NONE);
+            }
+        });
+        test(3, "The log is treated as by put.", "a full log, STRICT 1", () -> {
+            for (Used x : new Used[] {strict(Setups.withLog(24)), strict(Setups.chasingLog(24))}) {
+                due("erase", x.erase(5), TOO_MANY);
+                due("value", x.value(LIVE, 5), 5);
+                due("entries", x.copy(4), 24);
+            }
+        });
+        test(3, "The log is treated as by put.", "the 24th entry finds room", () -> {
+            for (Used x : new Used[] {Setups.withLog(23), strict(Setups.withLog(23))}) {
+                due("erase", x.erase(5), 5);
+                due("entries", x.copy(4), 24);
+                due("the last entry", x.entry(23, 0), 5);
+            }
+        });
     }
 }

@@ -1,179 +1,254 @@
-/** Promises 11 to 14: the text, its fault, and what its orders do. */
-public final class TextTest {
-    private static final Checks CHECKS = new Checks("TextTest");
-
-    public static void main(String[] args) {
-        promise11Append();
-        promise12ClearText();
-        promise13Fault();
-        promise13FaultOfNumbers();
-        promise14Run();
-        promise14RunStops();
-        promise14RunIsOneAction();
-        promise14RunRefuses();
-        CHECKS.end();
+/** Promises 11 to 13: the text and its fault. */
+public final class TextTest extends Sentences {
+    public static void main(String[] arguments) {
+        new TextTest().runAll();
     }
 
-    private static void promise11Append() {
-        ShadowTable x = new ShadowTable();
-        int[] bad = {31, 127, -1, 0, Integer.MIN_VALUE, Integer.MAX_VALUE};
-        for (int character : bad) {
-            CHECKS.unchanged("append " + character, x, () -> x.append(character), ShadowTable.BAD_VALUE);
-        }
-        CHECKS.due("append 32", x.append(32), 1);
-        CHECKS.due("append 126", x.append(126), 2);
-        for (int length = 3; length <= 80; length++) {
-            CHECKS.due("append", x.append('t'), length);
-        }
-        CHECKS.unchanged("the 81st", x, () -> x.append('t'), ShadowTable.TOO_MANY);
-        CHECKS.unchanged("the 81st, wrongly", x, () -> x.append(31), ShadowTable.BAD_VALUE);
-        CHECKS.due("the length stays", x.clearText(), 80);
-        CHECKS.due("append is no action", x.states(), 0);
+    @Override
+    void tell() {
+        promise11();
+        promise12();
+        promise13();
+        promise13Incomplete();
+        promise13NoScript();
+        promise13Numbers();
+        promise13Full();
     }
 
-    private static void promise12ClearText() {
-        ShadowTable x = Setups.withText("t,t");
-        CHECKS.due("clearText", x.clearText(), 3);
-        CHECKS.due("again", x.clearText(), 0);
-        CHECKS.due("fault", x.fault(), 0);
-        CHECKS.due("append", x.append('u'), 1);
-        CHECKS.due("fault", x.fault(), ShadowTable.NONE);
-        CHECKS.due("clearText is no action", x.states(), 0);
+    /** t, l, u, .. with commas between them, of so many characters. */
+    private static String orders(int length) {
+        StringBuilder text = new StringBuilder();
+        while (text.length() < length) {
+            text.append(text.length() % 2 == 1 ? ',' : "tlusg".charAt(text.length() / 2 % 5));
+        }
+        return text.toString();
     }
 
-    private static void dueFault(String text, int fault) {
-        ShadowTable x = Setups.withText(text);
-        CHECKS.unchanged("fault of '" + text + "'", x, x::fault, fault);
+    private void promise11() {
+        test(11, "`character`: 32 to 126", "least and greatest", () -> {
+            Used x = new Used();
+            due("append 32", x.append(32), 1);
+            due("append 126", x.append(126), 2);
+            due("fault", x.fault(), 0);
+        });
+        test(11, "BAD_VALUE if character is out of range", "too small and too large", () -> {
+            for (int character : new int[] {31, 127, 0, -1, NONE, 256 + 't', Integer.MIN_VALUE, Integer.MAX_VALUE}) {
+                changesNothing("append " + character, () -> Setups.withText("t"), x -> x.append(character), BAD_VALUE);
+            }
+        });
+        test(11, "Returns the length of the text", "from 1 to 80", () -> {
+            Used x = new Used();
+            for (int length = 1; length <= 80; length++) {
+                due("append", x.append('t'), length);
+            }
+        });
+        test(11, "TOO_MANY if the text has 80 characters", "the 81st", () ->
+            changesNothing("append", () -> Setups.withText(orders(80)), x -> x.append('t'), TOO_MANY));
+        test(11, "There is a text of at most 80 characters (empty at first).", "the 80th finds room, the 81st does not", () -> {
+            Used x = Setups.withText(orders(78));
+            due("the 79th", x.append('t'), 79);
+            due("the 80th", x.append(','), 80);
+            due("the 81st", x.append('t'), TOO_MANY);
+            due("the fault of the 80", x.fault(), 80);
+        });
+        test(11, "The error codes of a method are listed in the order in which they are checked", "append", () -> {
+            Used x = Setups.withText(orders(80));
+            due("character and room, too small", x.append(31), BAD_VALUE);
+            due("character and room, too large", x.append(127), BAD_VALUE);
+            due("room", x.append(126), TOO_MANY);
+        });
+        test(11, "Appends a character to the text.", "at its end, and it is no action", () -> {
+            Used x = Setups.withText("p1=");
+            due("append", x.append('7'), 4);
+            due("states", x.states(), 0);
+            due("run", x.run(), 1);
+            due("value", x.value(LIVE, 1), 7);
+        });
     }
 
-    private static void promise13Fault() {
-        String[] complete = {
-            "p0=0", "p31=99", "p9=10", "e0", "e31", "b01", "b48", "t", "t1", "t99", "l", "u", "s", "g",
-            "p1=2,e3,b41,t,t5,l,u,s,g", "t,t", "t9,t10",
-        };
-        for (String text : complete) {
-            dueFault(text, ShadowTable.NONE);
-        }
-        String[] incomplete = {"", "p", "p1", "p31", "p1=", "e", "b", "b0", "t,", "p1=2,", "l,p3", "g,b4", "u,e"};
-        for (String text : incomplete) {
-            dueFault(text, text.length());
-        }
-        String[] faultAtTheEnd = {
-            "x", ",", " ", "0", "P", "t ", "p,", "p=", "p1,", "p1 ", "p1=,", "p1=x", "e,", "e ", "bx", "b5", "b9",
-            "b00", "b09", "b0,", "b011", "t,,", "tt", "ll", "l1", "u1", "s1", "g1", "g,x", "e1=", "t=", "l,l,l,u,s,g1",
-        };
-        for (String text : faultAtTheEnd) {
-            dueFault(text, text.length() - 1);
-            dueFault(text + "t", text.length() - 1);
-            dueFault(text + ",t", text.length() - 1);
-        }
-        StringBuilder full = new StringBuilder("tt");
-        for (int index = 2; index < 80; index++) {
-            full.append('t');
-        }
-        dueFault(full.toString(), 1);
-        StringBuilder orders = new StringBuilder("t1");
-        while (orders.length() < 80) {
-            orders.append(",l");
-        }
-        dueFault(orders.toString(), ShadowTable.NONE);
-        orders.setCharAt(79, ',');
-        dueFault(orders.toString(), 79);
-        orders.setCharAt(79, 'p');
-        dueFault(orders.toString(), 80);
+    private void promise12() {
+        test(12, "Empties the text.", "a script, and a full text", () -> {
+            for (int length : new int[] {1, 5, 80}) {
+                Used x = Setups.withText(orders(length));
+                due("clearText", x.clearText(), length);
+                due("fault", x.fault(), 0);
+                due("run", x.run(), -100);
+            }
+        });
+        test(12, "Returns the length that the text had.", "it is empty already", () -> {
+            changesNothing("clearText", Used::new, Used::clearText, 0);
+            Used x = Setups.withText("t");
+            due("clearText", x.clearText(), 1);
+            due("clearText again", x.clearText(), 0);
+        });
+        test(12, "Empties the text.", "there is room for 80 again", () -> {
+            Used x = Setups.withText(orders(80));
+            x.clearText();
+            for (int length = 1; length <= 80; length++) {
+                due("append", x.append('l'), length);
+            }
+            due("the 81st", x.append('l'), TOO_MANY);
+        });
+        test(12, "Empties the text.", "it is no action", () -> {
+            Used x = Setups.withText("t");
+            x.clearText();
+            due("states", x.states(), 0);
+        });
     }
 
-    /** Each number, with one and with two digits, behind each letter that takes it. */
-    private static void promise13FaultOfNumbers() {
-        for (int number = 0; number < 100; number++) {
-            String text = Integer.toString(number);
-            dueFault("p" + text + "=0", number <= 31 ? ShadowTable.NONE : 2);
-            dueFault("e" + text, number <= 31 ? ShadowTable.NONE : 2);
-            dueFault("p0=" + text, ShadowTable.NONE);
-            dueFault("t" + text, number == 0 ? 1 : ShadowTable.NONE);
-            dueFault("p" + text + "1=0", number == 0 ? 2 : number <= 3 ? ShadowTable.NONE : number <= 31 && number > 9 ? 3 : 2);
-            dueFault("p0=" + text + "0", number == 0 ? 4 : number <= 9 ? ShadowTable.NONE : 5);
-            dueFault("t" + text + "0", number == 0 ? 1 : number <= 9 ? ShadowTable.NONE : 3);
-        }
-        for (int digit = 0; digit < 10; digit++) {
-            dueFault("e0" + digit, 2);
-            dueFault("p0" + digit, 2);
-            dueFault("t0" + digit, 1);
-            dueFault("p1=0" + digit, 4);
-            dueFault("b" + digit + "8", digit <= 4 ? ShadowTable.NONE : 1);
-            dueFault("b0" + digit, digit >= 1 && digit <= 8 ? ShadowTable.NONE : 2);
-        }
+    private void dueFault(String text, int fault) {
+        due("fault of '" + text + "'", Setups.withText(text).fault(), fault);
     }
 
-    private static void promise14Run() {
-        ShadowTable x = Setups.withText("p3=7,p31=99,b13,t,e3,t2,l,s");
-        CHECKS.due("run", x.run(), 8);
-        CHECKS.due("the live table", x.value(0, 31), 98);
-        CHECKS.due("the erased row", x.value(0, 3), ShadowTable.NONE);
-        CHECKS.due("the old table", x.value(2, 31), 99);
-        CHECKS.due("ticks", x.total(7), 3);
-        CHECKS.due("swaps", x.total(1), 1);
-        CHECKS.due("the text does not change", x.clearText(), 27);
-        Setups.write(x, "b28,t12,l,u,g");
-        CHECKS.due("run", x.run(), 5);
-        CHECKS.due("copies begun", x.total(0), 2);
-        CHECKS.due("copies given up", x.total(2), 1);
-        CHECKS.due("ticks", x.total(7), 15);
-        Setups.write(x, "e9,e9");
-        CHECKS.due("NONE is no error", x.run(), 2);
-        Setups.write(x, "p1=1,b42,t,l");
-        CHECKS.due("run", x.run(), 4);
-        CHECKS.due("the kind", x.copy(1), 4);
-        CHECKS.due("the lot", x.copy(2), 2);
-        CHECKS.due("the age", x.copy(5), 0);
-        Setups.write(x, "t3");
-        CHECKS.due("run", x.run(), 1);
-        CHECKS.due("the age", x.copy(5), 3);
+    private void promise13() {
+        test(13, "NONE if the text is a complete script", "each order alone", () -> {
+            for (String order : new String[] {"p0=0", "p31=99", "e0", "e31", "b01", "b48", "t", "t1", "t99", "l", "u", "s", "g"}) {
+                dueFault(order, NONE);
+            }
+        });
+        test(13, "script = order { \",\" order }", "two orders, many orders, a comma without an order", () -> {
+            for (String text : new String[] {"t,t", "t9,t10", "p1=2,e3,b41,t,t5,l,u,s,g"}) {
+                dueFault(text, NONE);
+            }
+            dueFault(",", 0);
+            dueFault(",t", 0);
+            dueFault("t,,t", 2);
+            dueFault("t,", 2);
+            dueFault("tt", 1);
+            dueFault("t;t", 1);
+        });
+        test(13, "order = \"p\" key \"=\" value | \"e\" key | \"b\" kind lot | \"t\" [ ticks ] | \"l\" | \"u\" | \"s\" | \"g\"",
+            "each character as the first one", () -> {
+            for (int character = 32; character < 127; character++) {
+                int due = "tlusg".indexOf(character) >= 0 ? NONE : "peb".indexOf(character) >= 0 ? 1 : 0;
+                dueFault("" + (char) character, due);
+                dueFault("l," + (char) character, due == NONE ? NONE : due + 2);
+            }
+        });
+        test(13, "\"t\" [ ticks ]", "each character behind t", () -> {
+            for (int character = 32; character < 127; character++) {
+                boolean isTicks = character >= '1' && character <= '9';
+                dueFault("t" + (char) character, isTicks ? NONE : character == ',' ? 2 : 1);
+            }
+        });
+        test(13, "The fault of the text is the index of the first character such that no script, of any length, "
+            + "begins with the characters up to and including it.", "what stands behind it is no matter", () -> {
+            for (String behind : new String[] {"", "t", ",t", "x", "=5"}) {
+                dueFault("px" + behind, 1);
+                dueFault("t,e3,q" + behind, 5);
+                dueFault("p3=7;" + behind, 4);
+            }
+        });
+        test(13, "Returns the fault", "it changes nothing", () -> {
+            changesNothing("fault of a script", () -> Setups.withText("p1=1,t"), Used::fault, NONE);
+            changesNothing("fault of the empty text", Used::new, Used::fault, 0);
+            changesNothing("fault of no script", () -> Setups.withText("p1=1,x"), Used::fault, 5);
+        });
     }
 
-    private static void promise14RunStops() {
-        ShadowTable x = Setups.withText("l,p0=1");
-        CHECKS.due("the first order is refused", x.run(), 0);
-        CHECKS.due("nothing behind it is done", x.value(0, 0), ShadowTable.NONE);
-        CHECKS.due("this is an action, too", x.states(), 1);
-        CHECKS.due("undo", x.undo(), 0);
-        String[] texts = {"p0=1,l", "p0=1,u", "p0=1,s", "p0=1,g", "b01,b01", "t,l,t", "b01,t,l,p0=0", "b01,t,l,e0"};
-        int[] done = {1, 1, 1, 1, 1, 1, 3, 3};
-        for (int index = 0; index < texts.length; index++) {
-            CHECKS.due("run of " + texts[index], Setups.withText(texts[index]).run(), done[index]);
-        }
-        ShadowTable full = Setups.withLog(24);
-        Setups.write(full, "e31,p31=5,g");
-        full.set(ShadowTable.STRICT, 1);
-        CHECKS.due("TOO_MANY stops", full.run(), 1);
-        full.set(ShadowTable.STRICT, 0);
-        CHECKS.due("giveUp is not possible behind the put", full.run(), 2);
-        CHECKS.due("the value", full.value(0, 31), 5);
+    private void promise13Incomplete() {
+        String words = "If there is no such character, but the text is not a complete script (as the empty text), "
+            + "the fault is the length of the text.";
+        test(13, words, "the empty text", () -> dueFault("", 0));
+        test(13, words, "an order that is not ended", () -> {
+            for (String text : new String[] {"p", "p1", "p31", "p1=", "p31=", "e", "b", "b0", "b4"}) {
+                dueFault(text, text.length());
+                dueFault("g," + text, text.length() + 2);
+            }
+        });
+        test(13, words, "a comma at the end", () -> {
+            for (String text : new String[] {"t,", "t9,", "p1=2,", "e0,", "b01,", "l,u,s,g,"}) {
+                dueFault(text, text.length());
+            }
+        });
     }
 
-    private static void promise14RunIsOneAction() {
-        ShadowTable x = Setups.withText("p0=1,p1=2,t,t");
-        x.put(9, 9);
-        String before = Picture.of(x);
-        CHECKS.due("run", x.run(), 4);
-        CHECKS.due("states", x.states(), 2);
-        CHECKS.due("undo", x.undo(), 1);
-        CHECKS.dueText("all of it is undone", Picture.of(x), before);
-        CHECKS.due("the text is there still", x.run(), 4);
+    private void promise13NoScript() {
+        String words = "begins with the characters up to and including it";
+        test(13, words, "a wrong character ends each order", () -> {
+            for (String text : new String[] {
+                "p,", "p=", "px", "p1,", "p1 ", "p1x", "p1=,", "p1=x", "p1==", "p1=2=", "p1=2x", "e,", "e ", "e=", "e1=",
+                "b,", "bx", "b0,", "b0x", "b011", "b01x", "tx", "t=", "t1x", "ll", "l1", "u1", "s1", "g1", "lp", "l "}) {
+                dueFault(text, text.length() - 1);
+                dueFault(text + "t", text.length() - 1);
+                dueFault("u," + text + ",t", text.length() + 1);
+            }
+        });
+        test(13, words, "great letters and signs", () -> {
+            for (String text : new String[] {"P", "E", "T", " t", "-", "+", "~", "!"}) {
+                dueFault(text, 0);
+            }
+            dueFault("p-1=0", 1);
+            dueFault("p1=-1", 3);
+            dueFault("t+1", 1);
+        });
     }
 
-    private static void promise14RunRefuses() {
-        String[] texts = {"", "p0=1,", "p0=1,x", "t,b", "p32=0", "p0=1 "};
-        int[] answers = {-100, -105, -105, -103, -102, -104};
-        for (int index = 0; index < texts.length; index++) {
-            ShadowTable x = Setups.withText(texts[index]);
-            CHECKS.unchanged("run of '" + texts[index] + "'", x, x::run, answers[index]);
-        }
-        ShadowTable long80 = new ShadowTable();
-        for (int length = 0; length < 40; length++) {
-            long80.append('t');
-            long80.append(',');
-        }
-        CHECKS.unchanged("run of 80 characters", long80, long80::run, -180);
+    private void promise13Numbers() {
+        String words = "A key is a number from 0 to 31, a value a number from 0 to 99, ticks a number from 1 to 99, "
+            + "all without leading zeros; a kind is a digit from 0 to 4, a lot a digit from 1 to 8.";
+        test(13, words, "each key of one and two digits", () -> {
+            for (int key = 0; key < 100; key++) {
+                dueFault("e" + key, key < 32 ? NONE : 2);
+                dueFault("p" + key + "=0", key < 32 ? NONE : 2);
+            }
+        });
+        test(13, words, "a key of three digits", () -> {
+            for (String key : new String[] {"100", "310", "319", "111", "299"}) {
+                dueFault("e" + key, 3);
+                dueFault("p" + key + "=0", 3);
+            }
+            dueFault("e320", 2);
+        });
+        test(13, words, "each value, and three digits", () -> {
+            for (int value = 0; value < 100; value++) {
+                dueFault("p0=" + value, NONE);
+            }
+            for (String value : new String[] {"100", "990", "999", "123"}) {
+                dueFault("p0=" + value, 5);
+            }
+        });
+        test(13, words, "each number of ticks, and three digits", () -> {
+            for (int ticks = 0; ticks < 100; ticks++) {
+                dueFault("t" + ticks, ticks > 0 ? NONE : 1);
+            }
+            for (String ticks : new String[] {"100", "990", "999", "123"}) {
+                dueFault("t" + ticks, 3);
+            }
+        });
+        test(13, words, "leading zeros", () -> {
+            for (int digit = 0; digit < 10; digit++) {
+                dueFault("e0" + digit, 2);
+                dueFault("p0" + digit + "=0", 2);
+                dueFault("p1=0" + digit, 4);
+                dueFault("t0" + digit, 1);
+            }
+        });
+        test(13, words, "each kind and each lot", () -> {
+            for (int digit = 0; digit < 10; digit++) {
+                dueFault("b" + digit, digit <= 4 ? 2 : 1);
+                dueFault("b" + digit + "8", digit <= 4 ? NONE : 1);
+                dueFault("b0" + digit, digit >= 1 && digit <= 8 ? NONE : 2);
+            }
+        });
+    }
+
+    private void promise13Full() {
+        test(13, "no script, of any length", "a script could be longer than the text can", () -> {
+            dueFault(orders(78) + "l,", 80);
+            dueFault(orders(78) + ",p", 78);
+            dueFault(orders(77) + ",p3", 80);
+            dueFault(orders(77) + ",b4", 80);
+            dueFault(orders(75) + ",p3=0", NONE);
+            dueFault(orders(75) + ",p31=", 80);
+        });
+        test(13, "no script, of any length", "the last of 80 characters", () -> {
+            dueFault(orders(79) + "x", 79);
+            dueFault(orders(79), NONE);
+            dueFault(orders(77) + ",t9", NONE);
+            dueFault(orders(77) + ",e9", NONE);
+            dueFault(orders(77) + ",t0", 79);
+            dueFault("t".repeat(80), 1);
+        });
     }
 }
