@@ -40,10 +40,6 @@ final class Checks {
         System.out.println(name + ": " + part + ": " + why);
     }
 
-    int wrong() {
-        return wrong;
-    }
-
     /** Ends the test, with exit code 1 if an answer was wrong. */
     void end() {
         System.out.println(name + ": " + made + " answers, " + wrong + " not as due");

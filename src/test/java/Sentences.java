@@ -45,6 +45,7 @@ abstract class Sentences {
                 checks.fail("throws " + thrown);
             }
         }
+        System.out.println(getClass().getName() + ": " + tests.size() + " tests of sentences");
         checks.end();
     }
 
